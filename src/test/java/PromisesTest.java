@@ -52,6 +52,9 @@ final class PromisesTest {
         promise39();
         promise39EachChange();
         promises40And41();
+        numbersUsedAgain();
+        allItems();
+        staleInput();
         keptApart();
         Check.end();
     }
@@ -578,6 +581,22 @@ final class PromisesTest {
         x.stamp(1, 0);
         x.shelve(1, 0);
         Check.due("29 one hour at the earliest", 1, x.eatsIn());
+        PotatoStamps y = justNotHungry();
+        Check.due("29 8.0f is not above", 2, y.eatsIn());
+    }
+
+    /** An hour will make its hunger 8.0f; a letter is on a shelf. */
+    private static PotatoStamps justNotHungry() {
+        PotatoStamps x = new PotatoStamps();
+        x.pass(11);
+        x.snacks(5);
+        x.feed(5);
+        Check.floats("26 hunger", 6.5f, x.hunger());
+        x.potato();
+        letters(x, 1);
+        x.stamp(0, 0);
+        x.shelve(0, 0);
+        return x;
     }
 
     private static void promise30() {
@@ -602,6 +621,9 @@ final class PromisesTest {
         Check.due("30 the stamped one stays", 0, x.itemOf(3, 4));
         Check.due("30 hour", 67, x.account(0));
         Check.floats("30 hunger", 1.5f * 67f - 15f, x.hunger());
+        PotatoStamps y = justNotHungry();
+        Check.due("30 8.0f is not above", 0, y.pass(1));
+        Check.due("30 9.5f is", 1, y.pass(1));
     }
 
     private static void promise31() {
@@ -901,6 +923,84 @@ final class PromisesTest {
         Check.due("40 in place of the earlier", 4, x.save());
         Check.due("40 undo goes on", 0, x.undo());
         Check.due("41 the later one", 4, x.restore());
+    }
+
+    private static void allItems() {
+        PotatoStamps x = new PotatoStamps();
+        x.potato();
+        letters(x, 19);
+        x.parcel(4, 5, 1, 1, 1);
+        x.stamp(18, 0);
+        x.shelve(18, 0);
+        Check.due("20 items", 20, x.account(2));
+        Check.due("20 items, letters", 19, x.account(3));
+        Check.due("20 items, made", 19, x.account(5));
+        Check.due("20 items, on shelves", 1, x.account(7));
+        Check.due("20 items, words", 10 * 5 + 9 * 9, x.account(12));
+        Check.due("20 items, prey", 18, x.prey());
+        Check.due("20 items, ranked", true, x.ranked(18) < 19);
+        raises("20 items, ranked", NONE, () -> x.ranked(19));
+        Check.due("20 items, well", true, x.isWell());
+        double sum = 0.0;
+        for (int item = 0; item < 19; item++) {
+            sum = sum + (double) Float.intBitsToFloat(x.reads(item));
+        }
+        Check.due("20 items, mean", Double.doubleToLongBits(sum / 19.0), x.meanBits());
+        raises("20 items, item 20", NO_SUCH, () -> x.itemOf(20, 0));
+    }
+
+    /** What an earlier text left behind its end must not be read as a part of the next one. */
+    private static void staleInput() {
+        PotatoStamps x = new PotatoStamps();
+        String longest = "p1;p1;p1;p1;p1;p1;p1;p1;p1;p1;p1;p1;p1;p1;p1;p1;p1;w0>1*12/3";
+        for (int length = 60; length >= 52; length--) {
+            type(x, longest);
+            raises("33 no crayon", OUT_OF_RANGE, () -> x.run());
+            Check.due("33 no error", -1, x.errorPosition());
+            type(x, longest.substring(0, length));
+            raises("33 cut at " + length, OUT_OF_RANGE, () -> x.run());
+            Check.due("33 cut at " + length, length == 60 ? -1 : length, x.errorPosition());
+        }
+        String[] ends = {"w", "w0", "w0>", "w0>1", "w0>1*", "w0>1*2", "w0>1*23", "w0>1*23/", "s", "s1", "s12", "s12@", "t"};
+        for (String end : ends) {
+            dueError(x, filler(60 - end.length()) + end, 60);
+        }
+    }
+
+    /** So many characters of orders, each with a semicolon behind it; there is one from six characters on. */
+    private static String filler(int length) {
+        StringBuilder text = new StringBuilder();
+        while ((length - text.length()) % 3 != 0) {
+            text.append("p01;");
+        }
+        while (text.length() < length) {
+            text.append("p1;");
+        }
+        return text.toString();
+    }
+
+    private static void numbersUsedAgain() {
+        PotatoStamps x = new PotatoStamps();
+        x.crayon(120);
+        x.potato();
+        x.letter(2, 5, 7, 0);
+        x.stamp(0, 0);
+        x.shelve(0, 0);
+        x.parcel(2, 5, 1, 1, 1);
+        x.save();
+        String before = picture(x);
+        while (x.account(2) > 0) {
+            x.undo();
+        }
+        x.parcel(1, 0, 2, 1, 1);
+        x.letter(3, 4, 9, 0);
+        x.stamp(0, 0);
+        x.shelve(0, 1);
+        dueItem("39 number 0 again", x, 0, new int[] {1, 1, 0, 4, 2, 0, 0});
+        dueItem("39 number 1 again", x, 1, new int[] {0, 3, 4, 9, 0, -1, -1});
+        x.restore();
+        Check.due("41 as it was", true, picture(x).equals(before));
+        Check.due("41 the letter is back", 0, x.inHole(5, 0, 0));
     }
 
     private static void keptApart() {

@@ -1,8 +1,14 @@
 /** Counts and prints the answers that are not the ones that are due. */
 final class Check {
     private static int wrong = 0;
+    private static String name = "";
 
     private Check() {
+    }
+
+    /** What all complaints from here on are about. */
+    static void under(String newName) {
+        name = newName + ": ";
     }
 
     static void due(String what, long want, long got) {
@@ -13,6 +19,12 @@ final class Check {
 
     static void due(String what, boolean want, boolean got) {
         if (want != got) {
+            complain(what + " answered " + got + ", due is " + want);
+        }
+    }
+
+    static void due(String what, String want, String got) {
+        if (!want.equals(got)) {
             complain(what + " answered " + got + ", due is " + want);
         }
     }
@@ -39,7 +51,7 @@ final class Check {
     static void complain(String text) {
         wrong++;
         if (wrong <= 50) {
-            System.out.println(text);
+            System.out.println(name + text);
         }
     }
 

@@ -1,13 +1,5 @@
-import java.util.NoSuchElementException;
-
 /** A test for each promise of the document, by its number. */
-final class PromisesTest {
-    private static final Class<?> NO_SUCH = IndexOutOfBoundsException.class;
-    private static final Class<?> OUT_OF_RANGE = IllegalArgumentException.class;
-    private static final Class<?> REFUSED = UnsupportedOperationException.class;
-    private static final Class<?> NONE = NoSuchElementException.class;
-    private static final Class<?> NOT_NOW = IllegalStateException.class;
-
+final class PromisesTest extends Calls {
     private PromisesTest() {
     }
 
@@ -50,7 +42,6 @@ final class PromisesTest {
         promise37();
         promise38();
         promise39();
-        promise39EachChange();
         promises40And41();
         numbersUsedAgain();
         allItems();
@@ -726,44 +717,45 @@ final class PromisesTest {
     }
 
     private static void promise34() {
-        PotatoStamps x = new PotatoStamps();
         String[] texts = {"", "w", "w0", "w0>", "w0>1", "w0>1*", "w0>1*4", "w0>1*40", "w0>1*40/", "s", "s1", "s12",
             "s12@", "h", "t", "f", "p", "p1;", "p1;w"};
         for (String text : texts) {
-            dueError(x, text, text.length());
+            dueError(text, text.length());
         }
-        dueError(x, ";", 0);
-        dueError(x, "x", 0);
-        dueError(x, "W0>1*1/0", 0);
-        dueError(x, "0", 0);
-        dueError(x, " p1", 0);
-        dueError(x, "w>", 1);
-        dueError(x, "w00>1", 2);
-        dueError(x, "w0;", 2);
-        dueError(x, "w0>10*", 4);
-        dueError(x, "w0>1*/0", 5);
-        dueError(x, "w0>1*123/0", 7);
-        dueError(x, "w0>1*12/00", 9);
-        dueError(x, "s123@0", 3);
-        dueError(x, "s@0", 1);
-        dueError(x, "s1;", 2);
-        dueError(x, "s1@00", 4);
-        dueError(x, "h123", 3);
-        dueError(x, "h1@", 2);
-        dueError(x, "t12", 2);
-        dueError(x, "f12", 2);
-        dueError(x, "f-1", 1);
-        dueError(x, "p123", 3);
-        dueError(x, "p1;;p1", 3);
-        dueError(x, "p1; p1", 3);
-        dueError(x, "p1,p1", 2);
-        dueError(x, "p1" + (char) (256 + ';') + "p1", 2);
-        dueError(x, "p1p1", 2);
-        dueError(x, "p1;p1;p1;p1;p1;p1;p1;p1;p1;p1;p1;p1;p1;p1;p1;p1;p1;p1;p1;p1;", 60);
+        dueError(";", 0);
+        dueError("x", 0);
+        dueError("W0>1*1/0", 0);
+        dueError("0", 0);
+        dueError(" p1", 0);
+        dueError("w>", 1);
+        dueError("w00>1", 2);
+        dueError("w0;", 2);
+        dueError("w0>10*", 4);
+        dueError("w0>1*/0", 5);
+        dueError("w0>1*123/0", 7);
+        dueError("w0>1*12/00", 9);
+        dueError("s123@0", 3);
+        dueError("s@0", 1);
+        dueError("s1;", 2);
+        dueError("s1@00", 4);
+        dueError("h123", 3);
+        dueError("h1@", 2);
+        dueError("t12", 2);
+        dueError("f12", 2);
+        dueError("f-1", 1);
+        dueError("p123", 3);
+        dueError("p1;;p1", 3);
+        dueError("p1; p1", 3);
+        dueError("p1,p1", 2);
+        dueError("p1" + (char) (256 + ';') + "p1", 2);
+        dueError("p1p1", 2);
+        dueError("p1;p1;p1;p1;p1;p1;p1;p1;p1;p1;p1;p1;p1;p1;p1;p1;p1;p1;p1;p1;", 60);
+        PotatoStamps x = new PotatoStamps();
         type(x, "p1");
         Check.due("34 runs", 1, x.run());
         Check.due("34 none", -1, x.errorPosition());
-        dueError(x, "p1;x", 3);
+        runRaises(x, "p1;x");
+        Check.due("34 later", 3, x.errorPosition());
         x.append('p');
         x.undo();
         Check.due("34 stays", 3, x.errorPosition());
@@ -869,29 +861,6 @@ final class PromisesTest {
         Check.due("39 neither save nor append", 0, x.account(14));
     }
 
-    private static void promise39EachChange() {
-        PotatoStamps x = new PotatoStamps();
-        x.crayon(100);
-        x.potato();
-        letters(x, 3);
-        x.stamp(0, 0);
-        x.stamp(1, 0);
-        x.shelve(0, 0);
-        x.snacks(5);
-        Runnable[] changes = {() -> x.crayon(10), () -> x.letter(0, 1, 2, 0), () -> x.parcel(0, 1, 1, 1, 1),
-            () -> x.string(3), () -> x.potato(), () -> x.ink(3), () -> x.stamp(2, 0), () -> x.shelve(1, 0),
-            () -> x.take(1), () -> x.snacks(2), () -> x.feed(1), () -> x.pass(9), () -> runText(x, "p2;f1;t1")};
-        for (int n = 0; n < changes.length; n++) {
-            String before = picture(x);
-            changes[n].run();
-            Check.due("39 change " + n + " changes", false, picture(x).equals(before));
-            // 7 but for the picture, whose own change has pushed the eighth out.
-            Check.due("39 change " + n, 6, x.undo());
-            Check.due("39 change " + n + " undone", true, picture(x).equals(before));
-            x.string(1);
-        }
-    }
-
     private static void promises40And41() {
         PotatoStamps x = new PotatoStamps();
         raises("41 none", NOT_NOW, () -> x.restore());
@@ -953,30 +922,21 @@ final class PromisesTest {
     private static void staleInput() {
         PotatoStamps x = new PotatoStamps();
         String longest = "p1;p1;p1;p1;p1;p1;p1;p1;p1;p1;p1;p1;p1;p1;p1;p1;p1;w0>1*12/3";
-        for (int length = 60; length >= 52; length--) {
-            type(x, longest);
-            raises("33 no crayon", OUT_OF_RANGE, () -> x.run());
-            Check.due("33 no error", -1, x.errorPosition());
-            type(x, longest.substring(0, length));
-            raises("33 cut at " + length, OUT_OF_RANGE, () -> x.run());
-            Check.due("33 cut at " + length, length == 60 ? -1 : length, x.errorPosition());
+        for (int length = 59; length >= 52; length--) {
+            staleInput(longest, longest.substring(0, length), length);
         }
         String[] ends = {"w", "w0", "w0>", "w0>1", "w0>1*", "w0>1*2", "w0>1*23", "w0>1*23/", "s", "s1", "s12", "s12@", "t"};
         for (String end : ends) {
-            dueError(x, filler(60 - end.length()) + end, 60);
+            staleInput(longest, filler(60 - end.length()) + end, 60);
         }
     }
 
-    /** So many characters of orders, each with a semicolon behind it; there is one from six characters on. */
-    private static String filler(int length) {
-        StringBuilder text = new StringBuilder();
-        while ((length - text.length()) % 3 != 0) {
-            text.append("p01;");
-        }
-        while (text.length() < length) {
-            text.append("p1;");
-        }
-        return text.toString();
+    private static void staleInput(String first, String second, int due) {
+        PotatoStamps x = new PotatoStamps();
+        runRaises(x, first);
+        Check.due("33 no error", -1, x.errorPosition());
+        runRaises(x, second);
+        Check.due("33 behind a longer one, " + second, due, x.errorPosition());
     }
 
     private static void numbersUsedAgain() {
@@ -1011,101 +971,5 @@ final class PromisesTest {
         x.save();
         Check.due("two objects", 0, y.account(1) + y.account(13));
         raises("two snapshots", NOT_NOW, () -> y.restore());
-    }
-
-    /** Every answer about what changes can change. */
-    private static String picture(PotatoStamps x) {
-        StringBuilder out = new StringBuilder();
-        for (int what = 0; what <= 12; what++) {
-            out.append(x.account(what)).append(' ');
-        }
-        for (int crayon = 0; crayon < x.account(1); crayon++) {
-            out.append(x.crayonOf(crayon)).append(' ');
-        }
-        for (int potato = 0; potato < x.account(4); potato++) {
-            out.append(x.firmness(potato)).append(' ').append(x.print(potato)).append(' ');
-        }
-        for (int item = 0; item < x.account(2); item++) {
-            for (int what = 0; what <= 6; what++) {
-                out.append(x.itemOf(item, what)).append(' ');
-            }
-            out.append(x.itemOf(item, 0) == 0 ? x.reads(item) : 0).append(' ');
-        }
-        for (int child = 0; child < 6; child++) {
-            out.append(x.read(child)).append(' ');
-            for (int hole = 0; hole < 5; hole++) {
-                out.append(holeOf(x, child, hole)).append(' ');
-            }
-        }
-        out.append(x.inkNow()).append(' ').append(x.hunger()).append(' ').append(metresOf(x));
-        return out.toString();
-    }
-
-    private static int holeOf(PotatoStamps x, int child, int hole) {
-        try {
-            return x.inHole(child, hole / 3, hole % 3);
-        } catch (NoSuchElementException e) {
-            return -1;
-        }
-    }
-
-    // The string is told by the answer of a change alone, which is taken back at once.
-    private static int metresOf(PotatoStamps x) {
-        int bits = x.string(1);
-        x.undo();
-        return bits;
-    }
-
-    private static void letters(PotatoStamps x, int many) {
-        int crayon = x.crayon(120);
-        for (int n = 0; n < many; n++) {
-            x.letter(0, 1, n % 2 == 0 ? 5 : 9, crayon);
-        }
-    }
-
-    private static void type(PotatoStamps x, String text) {
-        for (int n = 0; n < text.length(); n++) {
-            x.append(text.charAt(n));
-        }
-    }
-
-    private static void runText(PotatoStamps x, String text) {
-        type(x, text);
-        x.run();
-    }
-
-    private static void dueItem(String what, PotatoStamps x, int item, int[] due) {
-        for (int n = 0; n < due.length; n++) {
-            Check.due(what + " " + n, due[n], x.itemOf(item, n));
-        }
-    }
-
-    private static void dueSigns(String what, PotatoStamps x, String due) {
-        for (int item = 0; item < due.length(); item++) {
-            Check.due(what, due.charAt(item), x.sign(item));
-        }
-    }
-
-    private static void dueError(PotatoStamps x, String text, int due) {
-        type(x, text);
-        raises("34 " + text, OUT_OF_RANGE, () -> x.run());
-        Check.due("34 position of " + text, due, x.errorPosition());
-        Check.due("34 input behind " + text, 0, x.account(13));
-    }
-
-    private static void raises(String what, Class<?> want, Runnable call) {
-        Check.raises(what, want, call);
-    }
-
-    private static void refuses(String what, PotatoStamps x, int reason, int detail, Runnable call) {
-        Check.raises(what, REFUSED, call);
-        Check.due(what + ", its reason", reason, x.refusal(false));
-        Check.due(what + ", its detail", detail, x.refusal(true));
-    }
-
-    private static void runRefuses(String what, PotatoStamps x, String text, int reason, int detail) {
-        type(x, text);
-        refuses(what, x, reason, detail, () -> x.run());
-        Check.due(what + ", no error", -1, x.errorPosition());
     }
 }

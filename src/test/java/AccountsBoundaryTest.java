@@ -311,8 +311,11 @@ final class AccountsBoundaryTest extends Calls {
         for (int left = 7; left >= 0; left--) {
             Check.due("none of them pushed a change out", left, x.undo());
         }
-        Check.due("snacks ahead of all", 7, x.account(10));
-        raises("no more", NOT_NOW, () -> x.undo());
+        PotatoStamps due = emptied(fullSample());
+        for (int n = 0; n < 7; n++) {
+            due.undo();
+        }
+        Check.due("as it was ahead of all", picture(due), picture(x));
     }
 
     @Sentence(promise = 40, says = "Takes a snapshot of what changes can change, in place of an earlier one.")
@@ -390,6 +393,33 @@ final class AccountsBoundaryTest extends Calls {
         Check.due("the hour again", 8, x.account(0));
         Check.due("stamped again", 1, x.itemOf(5, 4));
         Check.due("the letter again", 1, x.itemOf(8, 3));
+    }
+
+    /** Numbers that were given away again behind an undo. */
+    @Sentence(promise = 41, says = "Returns the items.")
+    static void restoreOtherItems() {
+        PotatoStamps x = new PotatoStamps();
+        x.crayon(120);
+        x.potato();
+        x.letter(2, 5, 7, 0);
+        x.stamp(0, 0);
+        x.shelve(0, 0);
+        x.parcel(3, 4, 1, 2, 3);
+        Check.due("saved", 2, x.save());
+        String before = picture(x);
+        for (int n = 0; n < 4; n++) {
+            x.undo();
+        }
+        x.parcel(1, 0, 2, 1, 1);
+        x.letter(4, 3, 9, 0);
+        x.letter(4, 3, 9, 0);
+        shelved(x, 0, 0);
+        dueItem("number 0 again", x, 0, new int[] {1, 1, 0, 4, 2, 0, 0});
+        dueItem("number 1 again", x, 1, new int[] {0, 4, 3, 9, 0, -1, -1});
+        Check.due("restored", 2, x.restore());
+        Check.due("as it was", before, picture(x));
+        dueItem("the letter", x, 0, new int[] {0, 2, 5, 7, 2, 0, 0});
+        dueItem("the parcel", x, 1, new int[] {1, 3, 4, 6, 0, -1, -1});
     }
 
     @Sentence(promise = 41, says = "An object is used for at most 512 calls after it has been made; what later calls answer is free.")

@@ -53,7 +53,7 @@ final class AgainstModelTest {
     }
 
     private void go(int seed, List<Method> choices) throws Exception {
-        for (int n = 0; n < CALLS; n++) {
+        while (story.size() < CALLS) {
             Method method = choices.get(random.nextInt(choices.size()));
             if (isSkipped(method.getName())) {
                 continue;
@@ -91,7 +91,11 @@ final class AgainstModelTest {
         }
     }
 
+    // Behind its last promised call an object is asked nothing more.
     private boolean isSame(Method method, Object[] arguments) throws Exception {
+        if (story.size() >= CALLS) {
+            return true;
+        }
         Method other = Model.class.getMethod(method.getName(), method.getParameterTypes());
         String due = answerOf(other, model, arguments);
         String got = answerOf(method, real, arguments);

@@ -198,7 +198,7 @@ class Calls {
 
     private static void furnish(PotatoStamps x) {
         x.crayon(120);
-        x.crayon(10);
+        x.crayon(12);
         x.potato();
         x.potato();
         x.string(9);

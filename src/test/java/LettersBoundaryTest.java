@@ -527,6 +527,15 @@ final class LettersBoundaryTest extends Calls {
         Check.bits("a part of a metre", 99.0f, x.string(1));
         x.parcel(0, 1, 1, 1, 1);
         Check.bits("a part of 20 metres", 99.0f, x.string(20));
+        x.parcel(0, 1, 1, 1, 1);
+        x.parcel(0, 1, 1, 1, 1);
+        x.parcel(0, 1, 2, 1, 2);
+        Check.bits("a bit less, as floats", 99.0f - 0.1f * 8f - 0.1f * 8f - 0.1f * 14f + 3f, x.string(3));
+        x.string(1);
+        x.parcel(0, 1, 9, 9, 4);
+        x.parcel(0, 1, 1, 3, 2);
+        x.parcel(0, 1, 9, 6, 3);
+        Check.bits("a bit more, as floats", 99.0f, x.string(11));
     }
 
     @Sentence(promise = 9, says = "There are from 0.0f to 99.0f metres of string.")

@@ -191,6 +191,17 @@ final class ShelvesBoundaryTest extends Calls {
         refuses("all eaten", y, 10, 1, () -> y.take(1));
     }
 
+    @Sentence(promise = 22, says = "Throws `UnsupportedOperationException` if it is refused for reason 10; the reason is kept for refusal")
+    static void takeRefused() {
+        PotatoStamps x = stampedFor(3);
+        refuses("stamped ones are on no shelf", x, 10, 3, () -> x.take(3));
+        refuses("not even for this one", x, 10, 4, () -> x.take(4));
+        x.shelve(0, 0);
+        Check.due("one is enough", 1, x.take(3));
+        Check.due("the reason is kept", "10 4", refusalOf(x));
+        Check.due("nothing taken by the refused ones", 1, x.account(8));
+    }
+
     @Sentence(promise = 22, says = "When a child takes, all items in its pigeonholes are taken, letters first, by the pigeonholes.")
     static void takeAll() {
         PotatoStamps full = fullShelfOf(4);
@@ -353,6 +364,18 @@ final class ShelvesBoundaryTest extends Calls {
         Check.due("nothing fed", 0, x.account(11));
         Check.bits("just enough", 0.0f, x.feed(8));
         refuses("none again", x, 11, 0, () -> x.feed(1));
+    }
+
+    @Sentence(promise = 26, says = "Throws `UnsupportedOperationException` if it is refused for reason 11; the reason is kept for refusal")
+    static void feedRefused() {
+        PotatoStamps x = new PotatoStamps();
+        x.pass(4);
+        x.snacks(8);
+        refuses("the most that can be fed", x, 11, 8, () -> x.feed(9));
+        Check.bits("the most that there are", 0.0f, x.feed(8));
+        Check.due("the reason is kept", "11 8", refusalOf(x));
+        refuses("the least that can be fed", x, 11, 0, () -> x.feed(1));
+        Check.due("fed", 8, x.account(11));
     }
 
     @Sentence(promise = 26, says = "A snack makes its hunger 2.0f less, but at least 0.0f")

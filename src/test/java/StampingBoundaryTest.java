@@ -204,6 +204,10 @@ final class StampingBoundaryTest extends Calls {
         y.ink(50);
         Check.bits("not yet full", 7.0f + 0.1f * 19f, y.ink(19));
         Check.bits("a part of it", 9.0f, y.ink(2));
+        PotatoStamps z = new PotatoStamps();
+        z.ink(7);
+        z.ink(47);
+        Check.bits("a bit more, as floats", 9.0f, z.ink(16));
     }
 
     @Sentence(promise = 19, says = "There are from 0.0f to 9.0f of ink.")

@@ -252,7 +252,8 @@ final class TextsBoundaryTest extends Calls {
 
     @Sentence(promise = 34, says = "The error position of a text is the offset of the first character that cannot continue such a text")
     static void errorWithin() {
-        String wrong = "x W;@*>/wshtfp:" + (char) 0 + (char) 127 + (char) 256 + (char) 0x660 + (char) 65535;
+        String wrong = "x W;@*>/wshtfp:" + (char) 0 + (char) 127 + (char) 0x660 + (char) 65535
+            + (char) (256 + 'w') + (char) (256 + '1') + (char) (512 + ';') + (char) (65280 + 't');
         for (String order : ORDERS) {
             for (int place = 0; place < order.length(); place++) {
                 for (int n = 0; n < wrong.length(); n++) {

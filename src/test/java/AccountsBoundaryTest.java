@@ -102,6 +102,18 @@ final class AccountsBoundaryTest extends Calls {
         x.restore();
         Check.due("restored", true, x.isWell());
         Check.due("a new one", true, new PotatoStamps().isWell());
+        for (int child = 0; child < 6; child++) {
+            PotatoStamps y = new PotatoStamps();
+            y.crayon(10);
+            y.potato();
+            y.letter((child + 1) % 6, child, 1, 0);
+            y.parcel((child + 1) % 6, child, 1, 1, 1);
+            shelved(y, 0, 0);
+            shelved(y, 1, 0);
+            Check.due("on the shelf of " + child, true, y.isWell());
+            y.take(child);
+            Check.due("taken by " + child, true, y.isWell());
+        }
     }
 
     private static void shelvedOrRefused(PotatoStamps x, int item, int potato) {
